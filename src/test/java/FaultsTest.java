@@ -1,0 +1,135 @@
+import java.lang.reflect.Field;
+
+/**
+ * Promise 12 from within: no call of the face can bring a fault about, so each test breaks one
+ * thing in the private state, and faults() must then tell more than 0, and tell it in the end.
+ */
+public final class FaultsTest {
+    private static int wrong = 0;
+
+    public static void main(String[] args) throws ReflectiveOperationException {
+        check("untouched", made(), true);
+        pieces();
+        rows();
+        tree();
+        System.out.println(wrong == 0 ? "all faults are found" : wrong + " faults are not found");
+        if (wrong != 0) {
+            System.exit(1);
+        }
+    }
+
+    /** Free: 10 at 1, 10 at 14, 70 at 27, 70 at 100, 90 at 173, 80 at 266, a crumb of 1 at 358, the rest. */
+    private static ChunkShelf made() {
+        ChunkShelf x = new ChunkShelf();
+        int[] sizes = {10, 10, 70, 70, 90, 80, 10};
+        int[] at = new int[sizes.length];
+        for (int i = 0; i < sizes.length; i++) {
+            at[i] = x.take(sizes[i]);
+            x.take(3);
+        }
+        x.give(at[6]);
+        x.take(9);
+        for (int i = 0; i < 6; i++) {
+            x.give(at[i]);
+        }
+        return x;
+    }
+
+    private static void pieces() throws ReflectiveOperationException {
+        ChunkShelf x = made();
+        set(piece(x, 0), "cells", 9);
+        check("a gap between pieces", x, false);
+
+        x = made();
+        set(x, "cellCount", 1025);
+        check("cells behind the last piece", x, false);
+
+        x = made();
+        set(piece(x, 2), "behind", null);
+        check("a chain that is too short", x, false);
+
+        x = made();
+        set(piece(x, 2), "behind", piece(x, 0));
+        check("a chain that is a ring", x, false);
+
+        x = made();
+        set(piece(x, 0), "isFree", false);
+        check("a used piece in a row", x, false);
+
+        x = made();
+        set(piece(x, 1), "isFree", true);
+        check("a free piece in no row", x, false);
+    }
+
+    private static void rows() throws ReflectiveOperationException {
+        ChunkShelf x = made();
+        set(row(x, 10), "latest", null);
+        check("a row without its pieces", x, false);
+
+        x = made();
+        Object latest = get(row(x, 10), "latest");
+        set(get(latest, "older"), "older", latest);
+        check("a row that is a ring", x, false);
+
+        x = made();
+        set(get(row(x, 10), "latest"), "since", 0L);
+        check("a row out of order", x, false);
+
+        x = made();
+        set(row(x, 11), "latest", get(row(x, 10), "latest"));
+        set(row(x, 10), "latest", null);
+        check("pieces in the row of another size", x, false);
+    }
+
+    private static void tree() throws ReflectiveOperationException {
+        ChunkShelf x = made();
+        set(get(get(x, "shelves"), "great"), "root", null);
+        check("an empty tree", x, false);
+
+        x = made();
+        Object root = get(get(get(x, "shelves"), "great"), "root");
+        set(root, "latest", null);
+        check("an empty row in the tree", x, false);
+
+        x = made();
+        root = get(get(get(x, "shelves"), "great"), "root");
+        Object less = get(root, "less");
+        set(root, "less", get(root, "more"));
+        set(root, "more", less);
+        check("branches on the wrong side", x, false);
+    }
+
+    private static Object piece(ChunkShelf x, int index) throws ReflectiveOperationException {
+        Object piece = get(x, "lowest");
+        for (int i = 0; i < index; i++) {
+            piece = get(piece, "behind");
+        }
+        return piece;
+    }
+
+    private static Object row(ChunkShelf x, int cells) throws ReflectiveOperationException {
+        return ((Object[]) get(get(x, "shelves"), "small"))[cells - 3];
+    }
+
+    private static Object get(Object owner, String name) throws ReflectiveOperationException {
+        return field(owner, name).get(owner);
+    }
+
+    private static void set(Object owner, String name, Object value) throws ReflectiveOperationException {
+        field(owner, name).set(owner, value);
+    }
+
+    private static Field field(Object owner, String name) throws ReflectiveOperationException {
+        Field field = owner.getClass().getDeclaredField(name);
+        field.setAccessible(true);
+        return field;
+    }
+
+    private static void check(String what, ChunkShelf x, boolean sound) {
+        int faults = x.faults();
+        if (faults == 0 != sound) {
+            wrong++;
+            System.out.println(what + ": faults() answered " + faults);
+        }
+    }
+}
