@@ -303,7 +303,6 @@ public final class ChunkShelf {
                     p.older = gone.older;
                 }
             }
-            gone.older = null;
         }
 
         private Piece kthLatest(int k) {

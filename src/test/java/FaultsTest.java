@@ -41,6 +41,18 @@ public final class FaultsTest {
         check("a gap between pieces", x, false);
 
         x = made();
+        set(piece(x, 1), "cells", 4);
+        check("a used piece that overlaps the next", x, false);
+
+        x = made();
+        set(piece(x, 1), "cells", 2);
+        set(piece(x, 2), "at", 13);
+        set(piece(x, 2), "isFree", false);
+        set(piece(x, 2), "cells", 11);
+        set(row(x, 10), "latest", piece(x, 0));
+        check("a used piece that is too small", x, false);
+
+        x = made();
         set(x, "cellCount", 1025);
         check("cells behind the last piece", x, false);
 
@@ -55,6 +67,11 @@ public final class FaultsTest {
         x = made();
         set(piece(x, 0), "isFree", false);
         check("a used piece in a row", x, false);
+
+        x = made();
+        set(piece(x, 0), "isFree", false);
+        set(piece(x, 1), "isFree", true);
+        check("a used piece in a row instead of a free one", x, false);
 
         x = made();
         set(piece(x, 1), "isFree", true);
@@ -90,6 +107,22 @@ public final class FaultsTest {
         Object root = get(get(get(x, "shelves"), "great"), "root");
         set(root, "latest", null);
         check("an empty row in the tree", x, false);
+
+        x = made();
+        root = get(get(get(x, "shelves"), "great"), "root");
+        set(get(root, "latest"), "isFree", false);
+        set(root, "latest", null);
+        check("an empty row in the tree, and none of its pieces is free", x, false);
+
+        x = made();
+        Object least = get(get(get(x, "shelves"), "great"), "root");
+        while (get(least, "less") != null) {
+            least = get(least, "less");
+        }
+        set(least, "less", row(x, 10));
+        Object[] small = (Object[]) get(get(x, "shelves"), "small");
+        small[10 - 3] = row(x, 11);
+        check("a small row in the tree", x, false);
 
         x = made();
         root = get(get(get(x, "shelves"), "great"), "root");
