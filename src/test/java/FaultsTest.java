@@ -53,6 +53,12 @@ public final class FaultsTest {
         check("a used piece that is too small", x, false);
 
         x = made();
+        set(piece(x, 13), "cells", 0);
+        set(piece(x, 14), "at", 358);
+        set(piece(x, 14), "cells", 4);
+        check("a piece without cells", x, false);
+
+        x = made();
         set(x, "cellCount", 1025);
         check("cells behind the last piece", x, false);
 
@@ -91,6 +97,14 @@ public final class FaultsTest {
         x = made();
         set(get(row(x, 10), "latest"), "since", 0L);
         check("a row out of order", x, false);
+
+        x = made();
+        set(get(row(x, 10), "latest"), "since", get(get(get(row(x, 10), "latest"), "older"), "since"));
+        check("two of a row at the same time", x, false);
+
+        x = made();
+        set(piece(x, 6), "since", 0L);
+        check("a row of the tree out of order", x, false);
 
         x = made();
         set(row(x, 11), "latest", get(row(x, 10), "latest"));
@@ -160,7 +174,7 @@ public final class FaultsTest {
 
     private static void check(String what, ChunkShelf x, boolean sound) {
         int faults = x.faults();
-        if (faults == 0 != sound) {
+        if (sound ? faults != 0 : faults <= 0) {
             wrong++;
             System.out.println(what + ": faults() answered " + faults);
         }

@@ -1,12 +1,11 @@
 import java.util.ArrayList;
 import java.util.List;
-import java.util.NoSuchElementException;
 import java.util.Random;
 
 /** Long runs of calls, each answer beside that of a plain model with one list and no rows. */
 public final class ModelTest {
-    private static final int ILLEGAL = Integer.MIN_VALUE;
-    private static final int NO_SUCH = Integer.MIN_VALUE + 1;
+    private static final int ILLEGAL = Calls.ILLEGAL;
+    private static final int NO_SUCH = Calls.NO_SUCH;
     private static final int CALLS = 512;
     private static final int[] SPACES = {16, 17, 40, 64, 200, 1000, 5003, 16384};
     private static final String[] CALL_NAMES = {"space", "take", "give", "join", "joinAll", "suffices",
@@ -49,7 +48,7 @@ public final class ModelTest {
             int a = i == 0 ? space : argument(random, name, model, sizes);
             int b = random.nextInt(20) == 0 ? -1 - random.nextInt(3) : random.nextInt(4);
             int want = ofModel(model, name, a, b);
-            int got = ofShelf(shelf, name, a, b);
+            int got = Calls.answer(shelf, name, a, b);
             story.append(name).append('(').append(a).append(", ").append(b).append(") ").append(got).append('\n');
             if (got != want) {
                 wrong++;
@@ -92,28 +91,6 @@ public final class ModelTest {
             default:
                 return odd ? random.nextInt(model.cells + 20) - 10
                     : some[Model.AT] + random.nextInt(some[Model.SIZE]) * random.nextInt(2);
-        }
-    }
-
-    private static int ofShelf(ChunkShelf x, String name, int a, int b) {
-        try {
-            switch (name) {
-                case "space": return x.space(a);
-                case "take": return x.take(a);
-                case "give": return x.give(a);
-                case "join": return x.join(a);
-                case "joinAll": return x.joinAll();
-                case "suffices": return x.suffices(a);
-                case "piece": return x.piece(a);
-                case "cover": return x.cover(a);
-                case "free": return x.free(a, b);
-                case "count": return x.count(a);
-                default: return x.faults();
-            }
-        } catch (IllegalArgumentException e) {
-            return ILLEGAL;
-        } catch (NoSuchElementException e) {
-            return NO_SUCH;
         }
     }
 

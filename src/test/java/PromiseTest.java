@@ -1,9 +1,7 @@
-import java.util.NoSuchElementException;
-
 /** Each promise of the document by hand: ordinary inputs, named edges, wrong inputs. */
 public final class PromiseTest {
-    private static final int ILLEGAL = Integer.MIN_VALUE;
-    private static final int NO_SUCH = Integer.MIN_VALUE + 1;
+    private static final int ILLEGAL = Calls.ILLEGAL;
+    private static final int NO_SUCH = Calls.NO_SUCH;
     private static int wrong = 0;
     private static String part = "";
 
@@ -33,7 +31,6 @@ public final class PromiseTest {
         count();
         countRefuses();
         faults();
-        wrongCallsChangeNothing();
         System.out.println(wrong == 0 ? "all answers are as due" : wrong + " answers are not as due");
         if (wrong != 0) {
             System.exit(1);
@@ -500,75 +497,11 @@ public final class PromiseTest {
         due(x, "faults", 0);
     }
 
-    /** Two objects go the same way, one with refused calls in between; their ends must agree. */
-    private static void wrongCallsChangeNothing() {
-        part = "refused calls change nothing";
-        String[] way = {"space 40", "take 6", "take 6", "take 6", "take 6", "give 1", "give 13", "take 5",
-            "take 30", "give 7", "give 19", "join 7", "take 3"};
-        String[] refused = {"space 15", "space 16385", "take 2", "take 5001", "give 2", "give 0", "give 41",
-            "join 2", "join 41", "suffices 2", "suffices 5001", "free 6 -1", "count 8", "count -1"};
-        ChunkShelf plain = new ChunkShelf();
-        ChunkShelf plagued = new ChunkShelf();
-        for (String call : way) {
-            due(plagued, call, answer(plain, call));
-            for (String no : refused) {
-                int got = answer(plagued, no);
-                if (got != ILLEGAL && got != NO_SUCH) {
-                    tell(no, got, ILLEGAL);
-                }
-            }
-        }
-        for (int i = 0; i <= 40; i++) {
-            due(plagued, "piece " + i, answer(plain, "piece " + i));
-            due(plagued, "free " + i + " 0", answer(plain, "free " + i + " 0"));
-            due(plagued, "free " + i + " 1", answer(plain, "free " + i + " 1"));
-        }
-        for (int what = 0; what <= 7; what++) {
-            due(plagued, "count " + what, answer(plain, "count " + what));
-        }
-        due(plagued, "faults", 0);
-    }
-
     private static void due(ChunkShelf x, String call, int want) {
-        int got = answer(x, call);
+        int got = Calls.answer(x, call);
         if (got != want) {
-            tell(call, got, want);
-        }
-    }
-
-    private static void tell(String call, int got, int want) {
-        wrong++;
-        System.out.println(part + ": " + call + " answered " + name(got) + ", due is " + name(want));
-    }
-
-    private static String name(int answer) {
-        return answer == ILLEGAL ? "throws.IllegalArgumentException"
-            : answer == NO_SUCH ? "throws.NoSuchElementException" : Integer.toString(answer);
-    }
-
-    private static int answer(ChunkShelf x, String call) {
-        String[] words = call.split(" ");
-        int a = words.length > 1 ? Integer.parseInt(words[1]) : 0;
-        int b = words.length > 2 ? Integer.parseInt(words[2]) : 0;
-        try {
-            switch (words[0]) {
-                case "space": return x.space(a);
-                case "take": return x.take(a);
-                case "give": return x.give(a);
-                case "join": return x.join(a);
-                case "joinAll": return x.joinAll();
-                case "suffices": return x.suffices(a);
-                case "piece": return x.piece(a);
-                case "cover": return x.cover(a);
-                case "free": return x.free(a, b);
-                case "count": return x.count(a);
-                case "faults": return x.faults();
-                default: throw new AssertionError("unknown call: " + call);
-            }
-        } catch (IllegalArgumentException e) {
-            return ILLEGAL;
-        } catch (NoSuchElementException e) {
-            return NO_SUCH;
+            wrong++;
+            System.out.println(part + ": " + call + " answered " + Calls.name(got) + ", due is " + Calls.name(want));
         }
     }
 }
