@@ -284,6 +284,11 @@ public final class ChunkShelf {
         private Piece latest;
         private Row less;
         private Row more;
+        /** Used by faults() alone: the sizes that may be in this place of the tree. */
+        private int from;
+        private int to;
+        /** Used by faults() alone: the row to go to after this one. */
+        private Row next;
 
         private Row(int cells) {
             this.cells = cells;
@@ -391,6 +396,40 @@ public final class ChunkShelf {
         }
     }
 
+    /**
+     * The way of faults() over the tree, which may be none: a link to a size that may not be there
+     * is counted and not followed, so that no row is met twice and the way ends.
+     */
+    private static final class Walk {
+        private Row open;
+        private int wrongLinks;
+
+        private void enter(Row row, int from, int to) {
+            if (row == null) {
+                return;
+            }
+            if (row.cells < from || row.cells > to) {
+                wrongLinks++;
+                return;
+            }
+            row.from = from;
+            row.to = to;
+            row.next = open;
+            open = row;
+        }
+
+        /** Null when all have been met. */
+        private Row next() {
+            Row row = open;
+            if (row != null) {
+                open = row.next;
+                enter(row.less, row.from, row.cells - 1);
+                enter(row.more, row.cells + 1, row.to);
+            }
+            return row;
+        }
+    }
+
     /** All free pieces that are no crumbs, by size. */
     private static final class Shelves {
         private final Row[] small;
@@ -464,15 +503,18 @@ public final class ChunkShelf {
                 wrong += wrongInRow(small[i], most);
                 met += piecesIn(small[i], most);
             }
-            Row row = great.leastFrom(0);
+            Walk walk = new Walk();
+            walk.enter(great.root, GREAT_FROM, most);
+            Row row = walk.next();
             for (int i = 0; row != null && i < most; i++) {
-                if (row.cells < GREAT_FROM || row.latest == null) {
+                if (row.latest == null) {
                     wrong++;
                 }
                 wrong += wrongInRow(row, most);
                 met += piecesIn(row, most);
-                row = great.leastFrom(row.cells + 1);
+                row = walk.next();
             }
+            wrong += walk.wrongLinks;
             return met == shelved ? wrong : wrong + 1;
         }
 

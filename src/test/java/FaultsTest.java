@@ -8,14 +8,31 @@ public final class FaultsTest {
     private static int wrong = 0;
 
     public static void main(String[] args) throws ReflectiveOperationException {
+        endAfterAMinute();
         check("untouched", made(), true);
         pieces();
         rows();
         tree();
+        links();
         System.out.println(wrong == 0 ? "all faults are found" : wrong + " faults are not found");
         if (wrong != 0) {
             System.exit(1);
         }
+    }
+
+    /** So that a faults() that never ends is a failed test, and not one that hangs. */
+    private static void endAfterAMinute() {
+        Thread guard = new Thread(() -> {
+            try {
+                Thread.sleep(60_000);
+            } catch (InterruptedException e) {
+                return;
+            }
+            System.out.println("faults() does not end");
+            Runtime.getRuntime().halt(1);
+        });
+        guard.setDaemon(true);
+        guard.start();
     }
 
     /** Free: 10 at 1, 10 at 14, 70 at 27, 70 at 100, 90 at 173, 80 at 266, a crumb of 1 at 358, the rest. */
@@ -118,18 +135,18 @@ public final class FaultsTest {
         check("an empty tree", x, false);
 
         x = made();
-        Object root = get(get(get(x, "shelves"), "great"), "root");
+        Object root = root(x);
         set(root, "latest", null);
         check("an empty row in the tree", x, false);
 
         x = made();
-        root = get(get(get(x, "shelves"), "great"), "root");
+        root = root(x);
         set(get(root, "latest"), "isFree", false);
         set(root, "latest", null);
         check("an empty row in the tree, and none of its pieces is free", x, false);
 
         x = made();
-        Object least = get(get(get(x, "shelves"), "great"), "root");
+        Object least = root(x);
         while (get(least, "less") != null) {
             least = get(least, "less");
         }
@@ -139,11 +156,75 @@ public final class FaultsTest {
         check("a small row in the tree", x, false);
 
         x = made();
-        root = get(get(get(x, "shelves"), "great"), "root");
+        root = root(x);
         Object less = get(root, "less");
         set(root, "less", get(root, "more"));
         set(root, "more", less);
         check("branches on the wrong side", x, false);
+
+        x = made();
+        set(root(x), "cells", 1025);
+        set(get(root(x), "latest"), "cells", 1025);
+        check("a row for more cells than there are", x, false);
+    }
+
+    /** The tree of made(): the rest of 663 cells, below it 70, then 90, then 80. */
+    private static void links() throws ReflectiveOperationException {
+        String[] ways = {"", "less", "less more", "less more less"};
+        int[] cells = {663, 70, 90, 80};
+        for (int i = 0; i < ways.length; i++) {
+            int size = (Integer) get(at(made(), ways[i]), "cells");
+            if (size != cells[i]) {
+                wrong++;
+                System.out.println("'" + ways[i] + "' leads to " + size + " cells, due is " + cells[i]);
+            }
+        }
+        for (String from : ways) {
+            for (String to : ways) {
+                for (String side : new String[] {"less", "more"}) {
+                    ChunkShelf x = made();
+                    if (get(at(x, from), side) != at(x, to)) {
+                        set(at(x, from), side, at(x, to));
+                        check("a link '" + side + "' of '" + from + "' to '" + to + "'", x, false);
+                    }
+                }
+            }
+        }
+        emptyRows();
+    }
+
+    /** Without pieces, so that no count of pieces can give them away. */
+    private static void emptyRows() throws ReflectiveOperationException {
+        ChunkShelf x = made();
+        Object empty = root(new ChunkShelf());
+        set(empty, "latest", null);
+        set(root(x), "more", empty);
+        check("an empty row where its size may be", x, false);
+
+        x = made();
+        set(at(x, "less"), "less", empty);
+        check("an empty row where its size may not be", x, false);
+
+        x = made();
+        set(empty, "cells", 80);
+        set(at(x, "less more less"), "less", empty);
+        check("two rows of one size, the lesser side", x, false);
+
+        x = made();
+        set(at(x, "less more less"), "more", empty);
+        check("two rows of one size, the greater side", x, false);
+    }
+
+    private static Object root(ChunkShelf x) throws ReflectiveOperationException {
+        return get(get(get(x, "shelves"), "great"), "root");
+    }
+
+    private static Object at(ChunkShelf x, String way) throws ReflectiveOperationException {
+        Object row = root(x);
+        for (String side : way.isEmpty() ? new String[0] : way.split(" ")) {
+            row = get(row, side);
+        }
+        return row;
     }
 
     private static Object piece(ChunkShelf x, int index) throws ReflectiveOperationException {
