@@ -500,6 +500,9 @@ public final class ChunkShelf {
             int wrong = 0;
             int met = 0;
             for (int i = 0; i < small.length; i++) {
+                if (small[i].cells != LEAST_SIZE + i) {
+                    wrong++;
+                }
                 wrong += wrongInRow(small[i], most);
                 met += piecesIn(small[i], most);
             }

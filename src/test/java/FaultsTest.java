@@ -127,6 +127,33 @@ public final class FaultsTest {
         set(row(x, 11), "latest", get(row(x, 10), "latest"));
         set(row(x, 10), "latest", null);
         check("pieces in the row of another size", x, false);
+
+        x = made();
+        Object[] small = (Object[]) get(get(x, "shelves"), "small");
+        Object ten = small[10 - 3];
+        small[10 - 3] = small[11 - 3];
+        small[11 - 3] = ten;
+        check("two rows in each other's place", x, false);
+
+        goneInARow();
+    }
+
+    /** The first faults() marks the piece while it is there: the second must not trust that mark. */
+    private static void goneInARow() throws ReflectiveOperationException {
+        ChunkShelf x = new ChunkShelf();
+        for (int size : new int[] {10, 10, 3, 10, 3}) {
+            x.take(size);
+        }
+        x.give(1);
+        x.give(11);
+        x.give(24);
+        check("three of a row", x, true);
+        Object gone = piece(x, 1);
+        x.join(1);
+        check("two of them joined", x, true);
+        set(gone, "older", null);
+        set(row(x, 10), "latest", gone);
+        check("a piece that is gone in a row instead of the one that is there", x, false);
     }
 
     private static void tree() throws ReflectiveOperationException {
@@ -152,7 +179,7 @@ public final class FaultsTest {
         }
         set(least, "less", row(x, 10));
         Object[] small = (Object[]) get(get(x, "shelves"), "small");
-        small[10 - 3] = row(x, 11);
+        small[10 - 3] = row(new ChunkShelf(), 10);
         check("a small row in the tree", x, false);
 
         x = made();
@@ -191,6 +218,7 @@ public final class FaultsTest {
             }
         }
         emptyRows();
+        twoRowsOfOneSize();
     }
 
     /** Without pieces, so that no count of pieces can give them away. */
@@ -204,15 +232,28 @@ public final class FaultsTest {
         x = made();
         set(at(x, "less"), "less", empty);
         check("an empty row where its size may not be", x, false);
+    }
+
+    /** Each with one of the two pieces of 70 cells, so that all pieces are met. */
+    private static void twoRowsOfOneSize() throws ReflectiveOperationException {
+        ChunkShelf x = made();
+        set(at(x, "less"), "less", secondRowOf70(x));
+        check("two rows of one size, on the lesser side", x, false);
 
         x = made();
-        set(empty, "cells", 80);
-        set(at(x, "less more less"), "less", empty);
-        check("two rows of one size, the lesser side", x, false);
+        Object second = secondRowOf70(x);
+        set(second, "more", at(x, "less more"));
+        set(at(x, "less"), "more", second);
+        check("two rows of one size, on the greater side", x, false);
+    }
 
-        x = made();
-        set(at(x, "less more less"), "more", empty);
-        check("two rows of one size, the greater side", x, false);
+    private static Object secondRowOf70(ChunkShelf x) throws ReflectiveOperationException {
+        Object second = root(new ChunkShelf());
+        Object latest = get(at(x, "less"), "latest");
+        set(second, "cells", 70);
+        set(second, "latest", get(latest, "older"));
+        set(latest, "older", null);
+        return second;
     }
 
     private static Object root(ChunkShelf x) throws ReflectiveOperationException {
